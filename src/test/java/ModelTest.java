@@ -145,7 +145,10 @@ final class ModelTest {
     }
 
     private void mayAt(int run, int person, int thing) {
-        int minute = random.nextBoolean() ? some(10000) : some(300);
+        int minute = random.nextBoolean() ? some(10000) : 719 + random.nextInt(2);
+        if (thing >= 0 && thing < model.count(2) && random.nextInt(3) > 0) {
+            minute = Math.max(0, model.thing(thing, 9)) + new int[] {-1, 0, 59, 60}[random.nextInt(4)];
+        }
         due(run, "may", x.may(person, thing, minute), model.may(person, thing, minute));
     }
 
