@@ -35,7 +35,11 @@ final class ImageTest {
         Due.is("refusals are not taken back", x.count(13), 1);
         Due.is("another image", Due.tell(x, "t0000,1,1,1;"), 1);
         Due.is("image()", x.image(), 2);
+        Due.is("letter", x.letter('n'), 1);
+        Due.is("row(9)", x.row(9), 1);
         Due.is("on()", x.on(), 2);
+        Due.is("letters that are no town yet stay", x.count(5), 1);
+        Due.is("the row stays", x.count(4), 1);
     }
 
     private static void counts() {
