@@ -1,16 +1,33 @@
-/** What the tests share: answers that are due, and towns told as texts. */
+/** What the tests share: answers that are due, the sentences they look at, and towns told as texts. */
 final class Due {
     private static int looked = 0;
     private static int wrong = 0;
+    private static int lookedOfSentence = 1;
+    private static String sentence = "";
 
     private Due() {
     }
 
     static void is(String call, int got, int want) {
         looked++;
+        lookedOfSentence++;
         if (got != want) {
             wrong++;
-            System.out.println(call + " answered " + got + ", due is " + want);
+            System.out.println(sentence + call + " answered " + got + ", due is " + want);
+        }
+    }
+
+    /** Names the sentence of the document that the answers behind this look at; each must have one. */
+    static void sentence(String where, String words) {
+        endSentence();
+        sentence = where + " \"" + words + "\": ";
+        lookedOfSentence = 0;
+    }
+
+    private static void endSentence() {
+        if (lookedOfSentence == 0) {
+            wrong++;
+            System.out.println(sentence + "nothing looks at it");
         }
     }
 
@@ -42,6 +59,7 @@ final class Due {
     }
 
     static void end() {
+        endSentence();
         System.out.println(looked + " answers looked at, " + wrong + " wrong");
         if (wrong != 0 || looked == 0) {
             System.exit(1);
