@@ -32,6 +32,8 @@ final class SumEdgesTest {
         }
         Due.is("the law stays", x.law(0), 4);
         Due.sentence("Promise 25", "BESIDE.");
+        NobodyCarries two = Due.town("w01,10;p01,0,0,9;p01,7,0,9;t0001,1,1,9;t0101,1,1,9;");
+        Due.is("17 and 999, less 10 and 10", two.beside(), 996);
         Due.is("of nothing", new NobodyCarries().beside(), 0);
     }
 
