@@ -1002,7 +1002,9 @@ public final class NobodyCarries {
             for (int hops = 0; hops <= MOST_PLACES && sooner; hops++) {
                 sooner = false;
                 for (int p = 0; p < town.persons; p++) {
-                    sooner |= carryAlong(p, thing);
+                    if (carryAlong(p, thing)) {
+                        sooner = true;
+                    }
                 }
             }
             return soonestAt[load.to] >= FAR ? NONE : soonestAt[load.to];

@@ -277,6 +277,7 @@ final class NowEdgesTest {
         }
         x.law(OWN);
         Due.is("two of others', the last his", x.go(0, 1), -3);
+        Due.is("nor to where he is", x.go(0, 0), -3);
         Due.is("lay(0, 2)", x.lay(0, 2), 0);
         Due.is("two of others'", x.go(0, 1), 9);
         Due.is("the owner without it", x.go(1, 1), 9);
